@@ -895,17 +895,19 @@ public final class RangeTeller {
     private static final class Ranges {
         static final int TAINT = 4096;
         static final int ALL = (VALUES - 1) * VALUES;
+        private static final int LEAST = VALUES - 1;
+        private static final int GREATEST = LEAST * VALUES;
 
         static int of(int least, int greatest) {
             return least + VALUES * greatest;
         }
 
         static int least(int range) {
-            return range & (VALUES - 1);
+            return range & LEAST;
         }
 
         static int greatest(int range) {
-            return (range / VALUES) & (VALUES - 1);
+            return (range & GREATEST) / VALUES;
         }
 
         static boolean canBeZero(int range) {
@@ -927,9 +929,9 @@ public final class RangeTeller {
             if (other == NONE || other == one) {
                 return one;
             }
-            int least = Math.min(least(one), least(other));
-            int greatest = Math.max(greatest(one), greatest(other));
-            return of(least, greatest) | taintOf(one | other);
+            int least = (one & LEAST) < (other & LEAST) ? one & LEAST : other & LEAST;
+            int greatest = (one & GREATEST) > (other & GREATEST) ? one & GREATEST : other & GREATEST;
+            return least | greatest | ((one | other) & TAINT);
         }
 
         static int not(int p) {
@@ -944,15 +946,8 @@ public final class RangeTeller {
             return picked | taintOf(c);
         }
 
-        /** What an op that takes two gives; NONE if it can give nothing. */
+        /** The values that an op that takes two can give, untainted; NONE if there are none. */
         static int reckoned(int op, int p, int q) {
-            if ((op == Ops.OVER || op == Ops.REST) && !canBeOther(q)) {
-                return NONE;
-            }
-            return values(op, p, q) | taintOf(p | q);
-        }
-
-        private static int values(int op, int p, int q) {
             switch (op) {
                 case Ops.SAME:
                     return same(p, q);
@@ -980,7 +975,7 @@ public final class RangeTeller {
         private static int same(int p, int q) {
             boolean meet = least(p) <= greatest(q) && least(q) <= greatest(p);
             boolean oneEach = least(p) == greatest(p) && least(q) == greatest(q);
-            return truth(meet, !(meet && oneEach));
+            return of(meet && oneEach ? 1 : 0, meet ? 1 : 0);
         }
 
         /** All whole numbers from low to high occur, so crossing a multiple of 64 gives both 63 and 0. */
@@ -1012,11 +1007,17 @@ public final class RangeTeller {
         }
 
         private static int over(int p, int q) {
-            int most = Math.max(1, greatest(q));
+            int most = greatest(q);
+            if (most == 0) {
+                return NONE;
+            }
             return of(least(p) / most, greatest(p) / Math.max(1, least(q)));
         }
 
         private static int rest(int p, int q) {
+            if (greatest(q) == 0) {
+                return NONE;
+            }
             int least = VALUES - 1;
             int greatest = 0;
             for (int by = Math.max(1, least(q)); by <= greatest(q); by++) {
@@ -1096,11 +1097,21 @@ public final class RangeTeller {
 
         void foretell() {
             clear();
-            Arrays.fill(parameters, 0, MOST_PARAMETERS, Ranges.ALL);
+            for (int i = 0; i < MOST_PARAMETERS; i++) {
+                parameters[i] = Ranges.ALL;
+            }
             enter(0);
             boolean grew = true;
             for (int pass = 0; pass < MOST_PASSES && grew; pass++) {
-                grew = followWaiting();
+                grew = false;
+                for (int k = 0; k < program.size; k++) {
+                    if (waiting[k]) {
+                        waiting[k] = false;
+                        grew = true;
+                        recall(k);
+                        follow(k);
+                    }
+                }
             }
         }
 
@@ -1158,20 +1169,6 @@ public final class RangeTeller {
             Arrays.fill(cells, 0);
         }
 
-        /** Answers whether there was one to follow. */
-        private boolean followWaiting() {
-            boolean any = false;
-            for (int k = 0; k < program.size; k++) {
-                if (waiting[k]) {
-                    waiting[k] = false;
-                    any = true;
-                    recall(k);
-                    follow(k);
-                }
-            }
-            return any;
-        }
-
         private void recall(int k) {
             height = heights[k];
             System.arraycopy(operands, k * MOST_OPERANDS, stack, 0, MOST_OPERANDS);
@@ -1187,12 +1184,8 @@ public final class RangeTeller {
                     arrive(k + 1);
                     break;
                 case Ops.IF:
-                    int condition = pop();
-                    fork(k, Ranges.canBeOther(condition), Ranges.canBeZero(condition));
-                    break;
                 case Ops.BRANCH_IF:
-                    int test = pop();
-                    fork(k, Ranges.canBeZero(test), Ranges.canBeOther(test));
+                    fork(k, program.ops[k] == Ops.IF);
                     break;
                 case Ops.ELSE:
                 case Ops.END:
@@ -1212,11 +1205,14 @@ public final class RangeTeller {
         }
 
         /** The jump comes last, as it changes the stack. */
-        private void fork(int k, boolean goesOn, boolean jumps) {
-            if (goesOn) {
+        private void fork(int k, boolean jumpsOnZero) {
+            int condition = pop();
+            boolean canBeZero = Ranges.canBeZero(condition);
+            boolean canBeOther = Ranges.canBeOther(condition);
+            if (jumpsOnZero ? canBeOther : canBeZero) {
                 arrive(k + 1);
             }
-            if (jumps) {
+            if (jumpsOnZero ? canBeZero : canBeOther) {
                 jump(k);
             }
         }
@@ -1382,7 +1378,7 @@ public final class RangeTeller {
             if (given == NONE) {
                 return false;
             }
-            push(given);
+            push(given | Ranges.taintOf(p | q));
             return true;
         }
 
