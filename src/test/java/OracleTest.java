@@ -7,7 +7,8 @@ public final class OracleTest {
     private static final int MODULES = 20000;
     private static final int MOST_CALLS = 512;
     private static int wrong = 0;
-    private static List<Integer> bytes;
+    private static List<Integer> bytes = new ArrayList<>();
+    private static List<Integer> earlier;
     private static RangeTeller teller;
     private static int calls;
 
@@ -20,12 +21,18 @@ public final class OracleTest {
         }
     }
 
+    /** A new object that has had another module before, whose traces must not be seen. */
     private static int fresh() {
         teller = new RangeTeller();
+        calls = 3 + earlier.size() + bytes.size();
+        for (int b : earlier) {
+            teller.feed(b);
+        }
+        teller.load();
+        teller.run(1, 1, 100);
         for (int b : bytes) {
             teller.feed(b);
         }
-        calls = bytes.size() + 1;
         return teller.load();
     }
 
@@ -45,6 +52,7 @@ public final class OracleTest {
         int malformed = 0;
         int invalid = 0;
         for (int m = 0; m < modules; m++) {
+            earlier = bytes;
             bytes = Maker.module(random);
             while (bytes.size() > 100) {
                 bytes.remove(100);

@@ -26,6 +26,7 @@ public final class PromisesTest {
         checkingFrames();
         checkingNames();
         loadingForgets();
+        loadingAnew();
         places();
         inputs();
         runParameters();
@@ -402,6 +403,39 @@ public final class PromisesTest {
         due("outcome(0)", t.outcome(0), NONE);
     }
 
+    /** What one load leaves behind, wherever it stopped, must not be seen by the next one. */
+    private static void loadingAnew() {
+        about = "loading anew";
+        RangeTeller t = new RangeTeller();
+        feed(t, bytes("1 1 0 0 GET 0 IF 0 BLOCK 0 LOOP 0"));
+        due("load() with open frames", t.load(), MALFORMED);
+        feed(t, bytes("1 0 0 0 END"));
+        due("load()", t.load(), 1);
+        feed(t, bytes("1 1 0 0 GET 0 IF 0"));
+        due("load() with an open IF", t.load(), MALFORMED);
+        feed(t, bytes("1 0 0 0 ELSE END"));
+        due("load()", t.load(), MALFORMED);
+        due("place()", t.place(), 4);
+        feed(t, bytes("1 0 0 0 CONST 1 CONST 1 BLOCK 0 DROP END END"));
+        due("load() with operands", t.load(), INVALID);
+        feed(t, bytes("1 0 0 0 END"));
+        due("load()", t.load(), 1);
+        due("function(0, 5)", t.function(0, 5), 1);
+        feed(t, bytes("1 0 0 0 TRAP INPUT OUTPUT END"));
+        due("load()", t.load(), 4);
+        due("function(0, 5)", t.function(0, 5), 0);
+        due("instruction(2, 3)", t.instruction(2, 3), 0);
+        feed(t, bytes("2 0 0 1 CONST 3 INPUT STORE 0 INPUT INPUT CALL 1 END 2 0 1 GET 0 END"));
+        due("load()", t.load(), 9);
+        due("local(7, 0)", t.local(7, 0), ALL + TAINT);
+        feed(t, bytes("2 0 0 1 CONST 3 CONST 4 CALL 1 END 2 0 1 GET 0 END"));
+        due("load()", t.load(), 6);
+        due("local(4, 0)", t.local(4, 0), range(3, 3));
+        due("operand(3, 0)", t.operand(3, 0), range(3, 3));
+        due("function(0, 4)", t.function(0, 4), range(3, 3));
+        due("cell(3)", t.cell(3), 0);
+    }
+
     private static void places() {
         about = "place";
         RangeTeller t = new RangeTeller();
@@ -530,6 +564,15 @@ public final class PromisesTest {
         due("outcome(0): six calls", t.outcome(0), 5);
         due("run(6, 0, 999)", t.run(6, 0, 999), 4);
         due("outcome(1)", t.outcome(1), 8);
+        // As many operands as can be there at once.
+        t = loaded("1 0 0 0 " + times(10, "INPUT") + "CALL 0 TRAP END");
+        due("run(0, 0, 999)", t.run(0, 0, 999), 4);
+        due("outcome(2)", t.outcome(2), 77);
+        // What a run that stopped within calls leaves behind isn't seen by the next one.
+        t = loaded("1 1 0 0 GET 0 IF 0 GET 0 CALL 0 END END");
+        due("run(1, 0, 999)", t.run(1, 0, 999), 4);
+        due("run(0, 0, 999)", t.run(0, 0, 999), 0);
+        due("outcome(2)", t.outcome(2), 3);
         // Calls that are ended don't count.
         t = loaded("2 0 0 0 " + times(20, "CALL 1") + "END 0 0 0 END");
         due("run(0, 0, 99)", t.run(0, 0, 99), 0);
@@ -747,6 +790,14 @@ public final class PromisesTest {
         before("GET 0 GET 0 MINUS DROP", 3, 0, ALL);
         before("GET 0 NOT CONST 62 PLUS DROP", 4, 0, range(62, 63));
         before("GET 0 NOT CONST 63 PLUS DROP", 4, 0, ALL);
+        before("GET 0 CONST 5 SAME DROP", 3, 0, range(0, 1));
+        before("CONST 5 CONST 5 SAME DROP", 3, 0, range(1, 1));
+        before("CONST 5 CONST 6 SAME DROP", 3, 0, range(0, 0));
+        before("CONST 5 CONST 5 LESS DROP", 3, 0, range(0, 0));
+        before("GET 0 CONST 0 LESS DROP", 3, 0, range(0, 0));
+        before("GET 0 CONST 1 LESS DROP", 3, 0, range(0, 1));
+        before("GET 0 NOT CONST 2 LESS DROP", 4, 0, range(1, 1));
+        before("CONST 40 GET 0 NOT MINUS DROP", 4, 0, range(39, 40));
         before("CONST 4 CONST 9 GET 0 PICK DROP", 4, 0, range(4, 9));
         before("CONST 4 CONST 9 CONST 2 PICK DROP", 4, 0, range(4, 4));
         before("CONST 4 CONST 9 CONST 0 PICK DROP", 4, 0, range(9, 9));
