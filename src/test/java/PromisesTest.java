@@ -1,20 +1,7 @@
-import java.util.ArrayList;
 import java.util.Arrays;
-import java.util.List;
 
 /** Goes through the promises of the document one by one. */
-public final class PromisesTest {
-    private static final int MALFORMED = -1;
-    private static final int INVALID = -2;
-    private static final int NONE = -3;
-    private static final int ALL = 63 * 64;
-    private static final int TAINT = 4096;
-    private static final List<String> NAMES = Arrays.asList(("TRAP BLOCK LOOP IF ELSE END BRANCH BRANCHIF RETURN"
-        + " CALL DROP PICK GET SET TEE LOAD STORE CONST NOT SAME LESS PLUS MINUS TIMES OVER REST BOTH INPUT"
-        + " OUTPUT").split(" "));
-    private static int wrong = 0;
-    private static String about = "";
-
+public final class PromisesTest extends Bench {
     public static void main(String[] args) {
         newObject();
         feeding();
@@ -47,88 +34,7 @@ public final class PromisesTest {
         cells();
         functions();
         functionResults();
-        System.out.println(wrong == 0 ? "all answers are as due" : wrong + " answers are not as due");
-        if (wrong != 0) {
-            System.exit(1);
-        }
-    }
-
-    // ---- helpers
-
-    private static void due(String call, long got, long want) {
-        if (got != want) {
-            wrong++;
-            System.out.println(about + ": " + call + " answered " + got + ", due is " + want);
-        }
-    }
-
-    private static void due(String call, boolean got, boolean want) {
-        due(call, got ? 1 : 0, want ? 1 : 0);
-    }
-
-    /** Words are names of ops or numbers, which are written in their shortest form. */
-    private static int[] bytes(String text) {
-        List<Integer> bytes = new ArrayList<>();
-        for (String word : text.trim().split(" +")) {
-            if (NAMES.contains(word)) {
-                bytes.add(NAMES.indexOf(word));
-            } else {
-                int n = Integer.parseInt(word);
-                bytes.add(n < 32 ? n : n % 32 + 32);
-                if (n >= 32) {
-                    bytes.add(n / 32);
-                }
-            }
-        }
-        return bytes.stream().mapToInt(b -> b).toArray();
-    }
-
-    private static void feed(RangeTeller t, int... bytes) {
-        for (int b : bytes) {
-            due("feed(" + b + ")", t.feed(b), true);
-        }
-    }
-
-    private static RangeTeller loaded(String text) {
-        about = text;
-        RangeTeller t = new RangeTeller();
-        feed(t, bytes(text));
-        int got = t.load();
-        if (got < 0) {
-            due("load() with place " + t.place(), got, 0);
-        }
-        return t;
-    }
-
-    private static void answers(int[] bytes, int answer, int place) {
-        about = Arrays.toString(bytes);
-        RangeTeller t = new RangeTeller();
-        feed(t, bytes);
-        due("load()", t.load(), answer);
-        due("place()", t.place(), place);
-    }
-
-    private static void malformed(int place, int... bytes) {
-        answers(bytes, MALFORMED, place);
-    }
-
-    private static void invalid(int place, String text) {
-        answers(bytes(text), INVALID, place);
-    }
-
-    private static void valid(int count, String text) {
-        answers(bytes(text), count, NONE);
-    }
-
-    /** The result of running a function of two parameters and one result. */
-    private static void gives(String body, int x, int y, int result) {
-        RangeTeller t = loaded("1 2 2 1 " + body + " END");
-        due("run(" + x + ", " + y + ")", t.run(x, y, 2000), 0);
-        due("outcome(0)", t.outcome(0), result);
-    }
-
-    private static int range(int least, int greatest) {
-        return least + 64 * greatest;
+        finish();
     }
 
     // ---- promise 1
@@ -142,20 +48,6 @@ public final class PromisesTest {
         due("place()", t.place(), 0);
         nothingLoaded(t);
         due("input(1)", t.input(1), 1);
-    }
-
-    private static void nothingLoaded(RangeTeller t) {
-        due("run(0, 0, 10)", t.run(0, 0, 10), NONE);
-        for (int i = -1; i <= 6; i++) {
-            due("outcome(" + i + ")", t.outcome(i), NONE);
-            due("output(" + i + ")", t.output(i), NONE);
-            due("memory(" + i + ")", t.memory(i), NONE);
-            due("instruction(0, " + i + ")", t.instruction(0, i), NONE);
-            due("operand(0, " + i + ")", t.operand(0, i), NONE);
-            due("local(0, " + i + ")", t.local(0, i), NONE);
-            due("cell(" + i + ")", t.cell(i), NONE);
-            due("function(0, " + i + ")", t.function(0, i), NONE);
-        }
     }
 
     // ---- promise 2
@@ -255,10 +147,6 @@ public final class PromisesTest {
     }
 
     // ---- promise 3: checking
-
-    private static String times(int n, String text) {
-        return (text + " ").repeat(n);
-    }
 
     private static void checkingHeights() {
         String[] needOne = {"DROP", "NOT", "SET 0", "TEE 0", "LOAD 0", "OUTPUT", "IF 0 END", "BRANCHIF 0"};

@@ -21,7 +21,8 @@ public final class RangesTest {
 
     private static Oracle.Bounds some(Random random) {
         int a = random.nextInt(64);
-        int b = random.nextInt(3) == 0 ? a : random.nextBoolean() ? random.nextInt(64) : Math.min(63, a + random.nextInt(5));
+        int other = random.nextBoolean() ? random.nextInt(64) : Math.min(63, a + random.nextInt(5));
+        int b = random.nextInt(3) == 0 ? a : other;
         return new Oracle.Bounds(Math.min(a, b), Math.max(a, b), false);
     }
 
