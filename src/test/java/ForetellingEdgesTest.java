@@ -255,6 +255,7 @@ public final class ForetellingEdgesTest extends Bench {
         pair("TIMES", 63, 63, 0, 1, range(0, 63));
         pair("TIMES", 9, 10, 7, 7, range(6, 63));
         pair("TIMES", 33, 33, 33, 33, range(1, 1));
+        pair("TIMES", 5, 5, 51, 51, range(63, 63));
         pair("TIMES", 0, 63, 0, 63, range(0, 63));
         pair("TIMES", 0, 63, 63, 63, range(0, 63));
         pair("TIMES", 1, 63, 3, 3, range(1, 63));
