@@ -8,6 +8,8 @@ import java.nio.file.Path;
 import java.util.Arrays;
 import java.util.Set;
 import java.util.TreeSet;
+import java.util.regex.Matcher;
+import java.util.regex.Pattern;
 
 /** Looks at the public face, and at the source for some rules of LANGUAGE.md. */
 public final class FaceTest {
@@ -15,6 +17,9 @@ public final class FaceTest {
         "RangeTeller()", "boolean feed(int)", "int load()", "int place()", "int input(int)", "int run(int,int,int)",
         "int outcome(int)", "int output(int)", "int memory(int)", "int instruction(int,int)", "int operand(int,int)",
         "int local(int,int)", "int cell(int)", "int function(int,int)"));
+    // A method's own brace stands as far to the right as its first line.
+    private static final Pattern BODY = Pattern.compile(
+        "\\n(    |        )(\\w[^\\n;={]*\\)) \\{\\n(.*?)\\n\\1\\}\\n", Pattern.DOTALL);
     private static int wrong = 0;
 
     public static void main(String[] args) throws IOException {
@@ -95,5 +100,14 @@ public final class FaceTest {
         for (String line : text.split("\n")) {
             must(line.length() <= 120, "a long line: " + line);
         }
+        Matcher body = BODY.matcher(text);
+        int methods = 0;
+        while (body.find()) {
+            methods++;
+            must(body.group(3).split("\n").length <= 60, "a long method: " + body.group(2));
+            must(!body.group(3).contains("new ") || body.group(2).equals("public RangeTeller()"),
+                "a call makes an object: " + body.group(2));
+        }
+        must(methods > 100, "only " + methods + " methods were looked at");
     }
 }

@@ -31,6 +31,8 @@ public final class ForetellingEdgesTest extends Bench {
         nothingIsNarrowed();
         framesGiveOn();
         loopsGrow();
+        memoryGrows();
+        callsGrow();
         callGivesOn();
         callOfWhatCannotEnd();
         resultsJoin();
@@ -580,6 +582,48 @@ public final class ForetellingEdgesTest extends Bench {
         // Nothing grows where what comes round is what was there.
         t = loaded("1 1 1 1 CONST 7 SET 1 LOOP 0 GET 1 TEE 1 DROP GET 0 BRANCHIF 0 END GET 1 END");
         due("local(3, 1)", t.local(3, 1), range(7, 7));
+    }
+
+    private static void memoryGrows() {
+        sentence("These are the smallest ones for which this holds (what grows by 1 goes through a cell each time)");
+        RangeTeller t = loaded("1 1 0 0 LOOP 0 CONST 5 CONST 5 LOAD 0 CONST 1 PLUS STORE 0 GET 0 BRANCHIF 0 END END");
+        due("cell(5)", t.cell(5), ALL);
+        due("operand(5, 0)", t.operand(5, 0), range(1, 1));
+        due("operand(5, 1)", t.operand(5, 1), ALL);
+        // Up to 9 alone: from there the rest leads back to 0.
+        t = loaded("1 1 0 0 LOOP 0 CONST 5 CONST 5 LOAD 0 CONST 1 PLUS CONST 10 REST STORE 0 GET 0 BRANCHIF 0 END END");
+        due("cell(5)", t.cell(5), range(0, 9));
+        due("operand(7, 0)", t.operand(7, 0), range(10, 10));
+        due("operand(7, 1)", t.operand(7, 1), range(1, 10));
+        due("operand(8, 0)", t.operand(8, 0), range(0, 9));
+        // From cell to cell, the last one first, so that each round tells one cell more.
+        StringBuilder chain = new StringBuilder("1 1 0 0 LOOP 0 ");
+        for (int c = 10; c > 0; c--) {
+            chain.append("CONST ").append(c).append(" CONST ").append(c - 1).append(" LOAD 0 STORE 0 ");
+        }
+        t = loaded(chain + "CONST 0 INPUT STORE 0 GET 0 BRANCHIF 0 END END");
+        for (int c = 0; c < 16; c++) {
+            due("cell(" + c + ")", t.cell(c), c < 11 ? ALL + TAINT : 0);
+        }
+    }
+
+    private static void callsGrow() {
+        sentence("These are the smallest ones for which this holds (what grows by 1 goes through a call each time)");
+        // The parameter grows from 3 to 40 with each call within a call; from there the rest leads back to 0.
+        RangeTeller t = loaded("2 0 0 1 CONST 3 CALL 1 END 1 0 1 GET 0 CONST 40 LESS IF 1 GET 0 CONST 1 PLUS CONST 41 "
+            + "REST CALL 1 ELSE GET 0 END END");
+        due("local(3, 0)", t.local(3, 0), range(0, 40));
+        due("function(1, 4)", t.function(1, 4), range(0, 40));
+        due("operand(2, 0)", t.operand(2, 0), range(0, 40));
+        // Without a rest nothing holds it: no range is narrowed by the condition.
+        t = loaded("2 0 0 1 CONST 3 CALL 1 END 1 0 1 GET 0 CONST 40 LESS IF 1 GET 0 CONST 1 PLUS CALL 1 ELSE GET 0 "
+            + "END END");
+        due("local(3, 0)", t.local(3, 0), ALL);
+        due("function(1, 4)", t.function(1, 4), ALL);
+        // The result grows by 1 with each call that ended.
+        t = loaded("2 0 0 1 CALL 1 END 0 0 1 INPUT IF 1 CONST 7 ELSE CALL 1 CONST 1 PLUS CONST 30 REST END END");
+        due("function(1, 4)", t.function(1, 4), range(0, 29));
+        due("operand(1, 0)", t.operand(1, 0), range(0, 29));
     }
 
     // ---- calls

@@ -182,7 +182,7 @@ final class Maker {
             return;
         }
         int i = random.nextInt(locals);
-        switch (random.nextInt(6)) {
+        switch (random.nextInt(7)) {
             case 0: // a range that is neither one value nor all
                 emit(17, constant(), 17, constant());
                 unknown(head);
@@ -207,6 +207,10 @@ final class Maker {
             case 4: // an address that is mostly there, and a value to there
                 unknown(head);
                 emit(17, 1 + random.nextInt(15), 26, -1, 12, i, 16, random.nextInt(4));
+                break;
+            case 5: // from cell to cell, so that ranges grow the long way round
+                emit(17, random.nextInt(6), 17, random.nextInt(6), 15, random.nextInt(2));
+                emit(17, 1 + random.nextInt(3), 21 + random.nextInt(3), -1, 16, random.nextInt(2));
                 break;
             default: // an operation on a local and a constant
                 emit(12, i, 17, constant(), 19 + random.nextInt(8), -1, 13, i);
